@@ -70,7 +70,8 @@ public final class ImageTest {
         x.ship(0, 0, 0);
         x.text(0);
         Expect.law(x, 1, "0");
-        Expect.feed(x, "777");
+        Expect.feed(x, "77");
+        x.check();
         x.tell(5);
         x.tell(6);
         x.loose(9);

@@ -79,6 +79,14 @@ public final class TextTest {
             OldLight x = new OldLight();
             Expect.due("FAULT of " + texts[i], Expect.text(x, 0, texts[i]), faults[i] < 0 ? 1 : -10 - faults[i]);
         }
+        String[] signs = {"|", "&", "<", "=", ">", "+", "-", "*", "/", "%", "&!", "|("};
+        for (String sign : signs) {
+            OldLight x = new OldLight();
+            int ends = 1 + sign.length();
+            Expect.due("FAULT of b" + sign, Expect.text(x, 0, "b" + sign), -10 - ends);
+            Expect.due("FAULT of (b" + sign + ")", Expect.text(x, 0, "(b" + sign + ")"), -11 - ends);
+            Expect.due("no TEXT yet", x.law(0, 0, 0, 7), 7);
+        }
         String[] others = {"c", "y", "b", "d+m*h", "d+b"};
         int[] otherFaults = {0, 0, 0, -1, 2};
         for (int i = 0; i < others.length; i++) {
@@ -102,6 +110,7 @@ public final class TextTest {
         OldLight y = new OldLight();
         Expect.due("a TEXT of 50 bytes", Expect.text(y, 0, "1+".repeat(24) + "11"), 1);
         Expect.due("its value is held", y.law(0, 0, 0, 0), 19);
+        Expect.due("50 bytes that end too early", Expect.text(y, 0, "1+".repeat(25)), -60);
         Expect.due("49 bytes", Expect.text(y, 0, "0+".repeat(24) + "7"), 1);
         Expect.due("its value", y.law(0, 0, 0, 0), 7);
     }

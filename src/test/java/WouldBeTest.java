@@ -11,6 +11,7 @@ public final class WouldBeTest {
         promise22Struck();
         promise23Dark();
         promise23LeastSet();
+        promise23AllCells();
         promise24Deep();
         promise25Draws();
         promise26Traffic();
@@ -125,6 +126,10 @@ public final class WouldBeTest {
         Expect.due("the farthest back", x.leastFalse(0), 99);
         Expect.law(x, 0, "(y=200)|(y=100)");
         Expect.due("and no farther", x.leastFalse(0), 1);
+        OldLight y = new OldLight();
+        Expect.law(y, 0, "y=200");
+        Expect.due("all eight false: leastFalse(0)", y.leastFalse(0), 1);
+        Expect.due("all eight false: leastFalse(1)", y.leastFalse(1), 8);
         Expect.due("leastFalse(-1)", x.leastFalse(-1), Expect.BEYOND);
         Expect.due("leastFalse(2)", x.leastFalse(2), Expect.BEYOND);
     }
@@ -243,6 +248,14 @@ public final class WouldBeTest {
         y.lay(3, 0, 2);
         y.lay(1, 0, 3);
         Expect.due("CELL 3 alone is false", y.dark(20), 8);
+    }
+
+    private static void promise23AllCells() {
+        OldLight x = silted();
+        for (int cell = 1; cell < 8; cell++) {
+            x.ship(0, 3, cell);
+        }
+        Expect.due("seven CELLS", x.dark(1), 0x7F);
     }
 
     private static void promise24Deep() {
