@@ -20,6 +20,19 @@ final class Expect {
         }
     }
 
+    static void same(String call, String got, String want) {
+        asked++;
+        if (!got.equals(want)) {
+            wrong++;
+            System.out.println(call + " answered " + got + ", due is " + want);
+        }
+    }
+
+    /** How many answers have been asked for so far. */
+    static int asked() {
+        return asked;
+    }
+
     static void holds(String claim, boolean isSo) {
         due(claim, isSo ? 1 : 0, 1);
     }
