@@ -84,7 +84,7 @@ final class HourSentences extends Sentence {
         OldLight y = new OldLight();
         int most = 0;
         int least = 99;
-        for (int i = 0; i < 250; i++) {
+        for (int i = 0; i < 160; i++) {
             y.loose(1);
             most = Math.max(most, y.count(4));
             least = Math.min(least, y.count(4));
@@ -176,11 +176,46 @@ final class HourSentences extends Sentence {
         due("z", x.count(11), z);
         due("BACK", x.count(4), (z >>> 8) % 100);
         due("no SHIPS", new OldLight().loose(40), 0);
+        looseAsOneByOne();
         OldLight w = new OldLight();
         Expect.law(w, 1, "h=39");
         w.ship(20, 9, 2);
         w.loose(40);
         due("in the 40th HOUR it goes out", w.ofShip(0, 3), 3);
+    }
+
+    /** HOURS by draws in one call are as one by one, and as BACK set to each draw ahead of one HOUR. */
+    private static void looseAsOneByOne() {
+        for (int seed = 0; seed < 40; seed++) {
+            OldLight whole = manyDrafts(seed);
+            OldLight single = manyDrafts(seed);
+            OldLight told = manyDrafts(seed);
+            int in = 0;
+            int z = seed;
+            for (int i = 0; i < 12; i++) {
+                in = single.loose(1);
+                z = z * FACTOR + SUMMAND;
+                told.set(1, (z >>> 8) % 100);
+                told.hours(1);
+            }
+            told.seed(z);
+            due("in one call", whole.loose(12), in);
+            String want = Shown.all(told);
+            same("the state of one by one", Shown.all(single), want);
+            same("the state of one call", Shown.all(whole), want);
+        }
+    }
+
+    private static OldLight manyDrafts(int seed) {
+        OldLight x = new OldLight();
+        Expect.text(x, 0, "(y*7+c*3)%9+1");
+        Expect.text(x, 1, "(h+m)%3=0");
+        x.set(2, 0x7E);
+        x.seed(seed);
+        for (int kind = 0; kind < 7; kind++) {
+            x.ship(10 * kind + kind, 3 + kind % 4, 3 + kind % 5);
+        }
+        return x;
     }
 
     private static void looseBeyond() {

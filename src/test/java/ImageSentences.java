@@ -67,6 +67,19 @@ final class ImageSentences extends Sentence {
         change("numbers", x -> x.tell(7));
         change("no numbers", x -> x.check());
         change("BEDS", x -> x.beds(1));
+        OldLight x = new OldLight();
+        x.ship(20, 5, 1);
+        x.tell(1);
+        x.tell(1);
+        x.image();
+        x.check();
+        x.tell(5);
+        x.tell(6);
+        x.restore();
+        due("the numbers that waited", x.count(9), 2);
+        due("they are what they were", x.check(), 0);
+        x.restore();
+        due("and wait again", x.check(), 0);
         OldLight y = new OldLight();
         y.bay(3);
         y.lay(2, 0, 9);
@@ -114,17 +127,12 @@ final class ImageSentences extends Sentence {
         x.sheet(2, 8, 2);
         Made.row(x, 3, 32, "77");
         x.voice(0, 0, 0);
-        int[] told = new int[6];
         x.bay(0);
         x.ship(0, 0, 9);
-        for (int k = 1; k <= 5; k++) {
-            told[k] = x.told(k);
-        }
+        row("told", k -> x.told(k + 1), 3, 2, 3, 4, 5);
         x.image();
         x.restore();
-        for (int k = 1; k <= 5; k++) {
-            due("told(" + k + ")", x.told(k), told[k]);
-        }
+        row("told, as it was", k -> x.told(k + 1), 3, 2, 3, 4, 5);
         due("BODIES", x.count(10), 2);
         row("THE TRACE", x::trace, 20, 10, NONE);
         due("SHEET 0", x.beds(0), 3);

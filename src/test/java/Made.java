@@ -14,6 +14,7 @@ final class Made {
         x.lay(2, 0, 3);
         x.set(2, 0x15);
         x.ship(31, 7, 5);
+        errors(x);
         x.tell(9);
         x.image();
         x.lay(3, 1, 100);
@@ -36,10 +37,30 @@ final class Made {
         row(x, 0, 8, "543");
         row(x, 1, 16, "987654");
         row(x, 2, 32, "1234567890");
-        x.bay(0);
-        x.as(0, 2);
-        x.as(0, 2);
         return x;
+    }
+
+    /** One ERROR BEYOND, two NONE, three STATE, four FULL, five KIND; THE TAPE is empty then. */
+    private static void errors(OldLight x) {
+        for (int i = 0; i < 6; i++) {
+            x.feed(0, 8);
+        }
+        for (int i = 0; i < 5; i++) {
+            if (i < 1) {
+                x.bay(0);
+            }
+            if (i < 2) {
+                x.trace(-1);
+            }
+            if (i < 3) {
+                x.sheet(0, 8, -1);
+            }
+            if (i < 4) {
+                x.feed(0, 8);
+            }
+            x.as(0, 2);
+        }
+        x.text(0);
     }
 
     /** A SHEET of some bits with these digits for its numbers. */

@@ -113,7 +113,7 @@ final class SheetSentences extends Sentence {
                 due("sheet(" + sheet + ", 0, " + n + ")", x.sheet(sheet, 0, n), 1);
                 due("it is missing", x.put(sheet, 0, 0), NONE);
                 due("judge", x.judge(sheet), NONE);
-                due("told(3)", x.told(3), 0);
+                due("no STATE: told(3)", x.told(3), Made.laden().told(3));
             }
         }
         OldLight y = new OldLight();

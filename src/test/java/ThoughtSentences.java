@@ -178,6 +178,10 @@ final class ThoughtSentences extends Sentence {
         for (int[] a : sets) {
             due("set " + a[0], y.setting(a[0], 3), a[1]);
         }
+        OldLight z = Made.silted(new int[] {0, 6, 1}, new int[] {60, 2, 1});
+        Expect.law(z, 0, "2+4*(y<191)-9*(y=180)");
+        due("a GHOST alone", z.setting(2, 1), 0);
+        due("a GHOST believes by twice each BACK", z.setting(3, 1), 11);
     }
 
     private static void leastFalse() {
@@ -416,6 +420,8 @@ final class ThoughtSentences extends Sentence {
         due("it would strike AT 0", y.draws(1), 6);
         due("it would strike ahead", y.draws(2), 2);
         due("it would strike ahead", y.draws(3), 2);
+        OldLight w = Made.silted(new int[] {0, 4, 7}, new int[] {0, 2, 1}, new int[] {0, 0, 1});
+        row("their own DRAFTS don't matter, SHIP", w::draws, 2, 6, 6, BEYOND);
         OldLight z = Made.silted(new int[] {20, 9, 1});
         Expect.law(z, 0, "7-7*(c=2)");
         Expect.law(z, 1, "d>3");
@@ -491,6 +497,15 @@ final class ThoughtSentences extends Sentence {
         Expect.law(y, 0, "6*(y=200)");
         due("0 back", y.odds(0, 1, 0), 1);
         due("0 back", y.odds(0, 1, 1), 20);
+        y.become(0, 60);
+        Expect.law(y, 0, "9-9*(y=198)");
+        due("a GHOST by twice each BACK", y.odds(0, 1, 0), 19);
+        Expect.law(y, 0, "9-9*(y=199)");
+        due("a GHOST by twice each BACK", y.odds(0, 1, 1), 1);
+        Expect.law(y, 0, "9-9*(y=162)");
+        due("a GHOST, 38 YEARS", y.odds(0, 1, 0), 19);
+        Expect.law(y, 0, "9-9*(y=160)");
+        due("a GHOST, 40 YEARS", y.odds(0, 1, 0), 1);
     }
 
     // ---- Promise 17
