@@ -12,7 +12,6 @@ import java.util.List;
 import java.util.regex.Matcher;
 import java.util.regex.Pattern;
 import java.util.stream.Stream;
-import javax.tools.ToolProvider;
 
 /** README.md: each of its examples is compiled and run as it stands there, and answers what it says. */
 public final class ReadmeTest {
@@ -25,7 +24,7 @@ public final class ReadmeTest {
     private static final StringBuilder EXAMPLES = new StringBuilder();
     private static Path out;
 
-    public static void main(String[] args) throws IOException, ReflectiveOperationException {
+    public static void main(String[] args) throws Exception {
         String readme = Files.readString(Path.of("README.md"));
         out = Files.createTempDirectory("readme");
         String program = "";
@@ -65,7 +64,7 @@ public final class ReadmeTest {
         EXAMPLES.append("}\n");
     }
 
-    private static void examplesAnswer() throws IOException, ReflectiveOperationException {
+    private static void examplesAnswer() throws Exception {
         Class<?> examples = compiled("Examples", "public final class Examples {\n"
             + "public static final java.util.List<Integer> GOT = new java.util.ArrayList<>();\n"
             + "public static void main(String[] args) {\n" + EXAMPLES + "}\n}\n");
@@ -77,7 +76,7 @@ public final class ReadmeTest {
         }
     }
 
-    private static void programPrints(String program, String printed) throws IOException, ReflectiveOperationException {
+    private static void programPrints(String program, String printed) throws Exception {
         Class<?> harbour = compiled("Harbour", program);
         PrintStream before = System.out;
         ByteArrayOutputStream bytes = new ByteArrayOutputStream();
@@ -90,10 +89,10 @@ public final class ReadmeTest {
         Expect.same("Harbour", bytes.toString(StandardCharsets.UTF_8).replace("\r\n", "\n"), printed);
     }
 
-    private static Class<?> compiled(String name, String source) throws IOException, ReflectiveOperationException {
+    private static Class<?> compiled(String name, String source) throws Exception {
         Path file = Files.writeString(out.resolve(name + ".java"), source);
-        int code = ToolProvider.getSystemJavaCompiler().run(null, null, null,
-            "-cp", System.getProperty("java.class.path"), "-d", out.toString(), file.toString());
+        int code = new ProcessBuilder("javac", "-cp", System.getProperty("java.class.path"), "-d", out.toString(),
+            file.toString()).inheritIO().start().waitFor();
         Expect.due("compiling " + name, code, 0);
         return new URLClassLoader(new java.net.URL[] {out.toUri().toURL()}).loadClass(name);
     }
